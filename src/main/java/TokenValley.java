@@ -56,7 +56,6 @@ public final class TokenValley {
         if (!within(sort, Shops.COMPANY, Shops.TOWN) || !within(price, 1, Shops.MOST_PRICE)) return BAD;
         if (!within(stock, 0, Shops.MOST_STOCK)) return BAD;
         if (!within(road, 0, sort == Shops.COMPANY ? 0 : Shops.MOST_ROAD)) return BAD;
-        if (now.shops.count >= Shops.MOST) return FULL;
         return now.shops.added(sort, price, stock, road);
     }
 
@@ -152,7 +151,6 @@ public final class TokenValley {
     private int newDue(int kind, int man, int amount, int sort) {
         if (!now.men.has(man) || !within(amount, 1, MOST_AMOUNT) || !within(sort, 0, Dues.MOST_SORT)) return BAD;
         if (now.men.isGone(man)) return NO;
-        if (now.dues.count >= Dues.MOST) return FULL;
         return now.dues.added(kind, man, amount, sort, now.day);
     }
 
@@ -264,7 +262,6 @@ public final class TokenValley {
         reader.length = 0;
         if (!within(day, 0, LAST_DAY)) return BAD;
         if (fault >= 0) return -100 - fault;
-        if (now.rules.count >= Rules.MOST) return FULL;
         return now.rules.added(reader.key, day, reader.operands, reader.codeRow());
     }
 
@@ -359,7 +356,6 @@ public final class TokenValley {
 
     public int breach(int place, int from, int to) {
         if (!within(place, 0, Rounds.PLACES - 1) || !within(from, 0, 6) || !within(to, from, 6)) return BAD;
-        if (now.rounds.count >= Rounds.MOST) return FULL;
         return now.rounds.added(place, from, to);
     }
 
@@ -387,7 +383,6 @@ public final class TokenValley {
 
     public int choice(int cost, int gain, int ahead) {
         if (!within(cost, 0, 999) || !within(gain, 0, 99) || !within(ahead, 0, 255)) return BAD;
-        if (now.plans.count >= Plans.MOST) return FULL;
         return now.plans.added(cost, gain, ahead);
     }
 
@@ -948,23 +943,14 @@ public final class TokenValley {
             return v >= LEAST_V[what] && v <= MOST_V[what];
         }
 
-        /** A place is cleared first: it may have been a man's who is not there in an image that came back. */
+        /** A place behind the last man is as new always: an image that comes back brings its own places, too. */
         int added(int newPit, int newSkill, int newNeed) {
             if (count >= MOST) return FULL;
-            clear(count);
             pit[count] = newPit;
             skill[count] = newSkill;
             need[count] = newNeed;
             count++;
             return count - 1;
-        }
-
-        private void clear(int man) {
-            for (int what = 0; what <= 13; what++) {
-                int[] row = row(what);
-                if (row != null) row[man] = 0;
-            }
-            for (int shop = 0; shop < Shops.MOST; shop++) knownDay[man * Shops.MOST + shop] = UNKNOWN;
         }
 
         void become(Men other) {

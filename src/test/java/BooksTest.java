@@ -39,7 +39,9 @@ public final class BooksTest {
         due("35: MISSING", x.read(0, 0), NOTHING);
         x.book(1, 0, 3);
         x.note(1, 2, 9);
+        x.note(1, 0, 9);
         due("35: again", x.book(1, 0, 5), 5);
+        due("35: its first WEEK", x.read(1, 0), 0);
         due("35: all 0 again", x.read(1, 2), 0);
         due("35: MISSING with a BAD pit", x.book(8, -1, 0), BAD);
     }
@@ -122,6 +124,10 @@ public final class BooksTest {
         due("38: copied", x.copy(0, 2, 1, 1, 3), 3);
         int[] want = {0, 12, 13, 14};
         for (int i = 0; i < 4; i++) due("38: WEEK " + i, x.read(1, i), want[i]);
+        x.book(7, 0, 2);
+        due("38: to PIT 7", x.copy(0, 0, 7, 0, 2), 2);
+        due("38: from PIT 7", x.copy(7, 1, 1, 0, 1), 1);
+        due("38: of PIT 7", x.read(1, 0), 11);
     }
 
     private static void copyingOnes() {

@@ -275,6 +275,10 @@ public final class DuesTest {
         y.run(7);
         due("23: nothing was taken", y.wrong(0), 0);
         due("24: nothing to give", y.give(0), NO);
+        y.be(0, 1, 1);
+        y.fine(0, 1, 1);
+        y.run(7);
+        due("23: a penny", y.wrong(0), 1);
     }
 
     private static void worth() {
@@ -322,6 +326,15 @@ public final class DuesTest {
         due("25: ROAD first", x.worth(0, 8), 6);
         x.shop(1, 9, 0, 0);
         due("25: the most of all TOWNS", x.worth(0, 8), 6);
+        x.shelf(0, 1, 1);
+        due("25: COMPANY for a penny", x.worth(0, 7), 40);
+        TokenValley y = new TokenValley();
+        y.shop(1, 1, 0, 39);
+        y.man(0, 2, 1);
+        y.be(0, 3, 99);
+        y.run(1);
+        due("25: a TOWN for a penny", y.worth(0, 8), 1);
+        due("25: no COMPANY", y.worth(0, 7), 0);
     }
 
     private static void proving() {
@@ -345,6 +358,10 @@ public final class DuesTest {
         due("26: pit 8", x.prove(8, 15, 23, 0), BAD);
         due("26: pit -1", x.prove(-1, 15, 23, 0), BAD);
         due("26: the edges", x.prove(3, 1, 99, 1), 1700);
+        x.man(7, 1, 1);
+        x.be(1, 3, 9);
+        x.run(1);
+        due("26: PIT 7, a tub that may weigh 1", x.prove(7, 1, 1, 0), 2000);
         TokenValley y = new TokenValley();
         for (int i = 0; i < 12; i++) {
             y.man(0, 9, 1);
@@ -397,9 +414,21 @@ public final class DuesTest {
         x.be(0, 2, 1);
         due("27: OWED", x.is(0, 11), 1000);
         due("27: WEEK 1000", x.bound(0, 71, 1), 1000);
-        x.be(0, 3, 0);
-        x.run(1);
-        due("27: WEEK 1010", x.bound(0, 71, 1), NONE);
+        TokenValley y = new TokenValley();
+        y.shop(0, 7, 999, 0);
+        y.man(0, 0, 1);
+        y.rule(0, 9999);
+        y.run(6);
+        y.be(0, 2, 9);
+        y.run(15);
+        y.be(0, 2, 1);
+        y.rule(0, 0);
+        due("27: OWED", y.is(0, 11), 987);
+        due("27: WEEK 987", y.bound(0, 50, 1), 987);
+        y.rule(0, 9999);
+        y.run(2);
+        due("27: OWED again", y.is(0, 11), 1001);
+        due("27: WEEK 1001", y.bound(0, 50, 1), NONE);
     }
 
     private static void beside() {
@@ -442,5 +471,15 @@ public final class DuesTest {
         y.hear(0, 0);
         Due.text(y, "coin 0", 0);
         due("28: one GONE fewer", y.beside(9, 2), -1);
+        TokenValley z = new TokenValley();
+        z.shop(0, 4, 9999, 0);
+        z.man(0, 1, 1);
+        z.pit(0, 0, 6);
+        z.be(0, 3, 14);
+        Due.text(z, "coin 0", 7);
+        // the first WEEK's pay is coin in both; of the second one 10 loaves are bought by checks in this one
+        due("28: a TEXT of a later DAY", z.beside(17, 0), 12);
+        Due.text(z, "coin 100", 13);
+        due("28: of a still later one", z.beside(17, 0), 0);
     }
 }

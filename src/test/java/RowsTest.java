@@ -88,6 +88,11 @@ public final class RowsTest {
         due("53: no DAY went by", x.count(11), 7);
         due("53: nor for the IMAGE", x.back(), 4);
         due("53: as it was", x.is(0, 10), 160);
+        Due.text(x, "wage 1", 6);
+        x.keep();
+        due("53: a TEXT of a later DAY", check(x, 1, 3, 0, 300, 20, 360, 20, 0, 0), 0);
+        Due.text(x, "wage t", 6);
+        x.keep();
         for (int d = 0; d < 28; d++) {
             x.run(1);
             x.tell(x.is(0, 10) + x.is(1, 10));

@@ -83,6 +83,10 @@ public final class RulesTest {
         fault("wage", 4);
         fault("wage  ", 6);
         fault("wag t", 0);
+        fault("rage t", 0);
+        fault("duez 1", 0);
+        fault("due zz", 4);
+        fault("due 1za", 5);
         fault("  wages t", 2);
         fault("Wage t", 0);
         fault("5", 0);
@@ -232,6 +236,12 @@ public final class RulesTest {
         due("33: of several the greatest", x.why(1), 2);
         due("34: of several the greatest", x.rules(1, 0, 0, 0), 7);
         due("33: another key", x.why(3), 4);
+        TokenValley y = new TokenValley();
+        Due.text(y, "stop 5", 1);
+        Due.text(y, "stop 6", 0);
+        y.run(1);
+        due("33: the first has the latest DAY", y.why(1), 0);
+        due("34: the first has the latest DAY", y.rules(1, 0, 0, 0), 5);
         due("34: key 7", x.rules(7, 0, 0, 0), BAD);
         due("34: key -1", x.rules(-1, 0, 0, 0), BAD);
     }

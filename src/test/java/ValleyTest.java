@@ -143,6 +143,8 @@ public final class ValleyTest {
         due("3: men of pit 7", x.dug(7, 5), 1);
         due("21: WAGE is a DUE", x.told(22, 0), 1);
         due("21: DEBT is a DUE", x.told(23, 0), 6);
+        due("21: SORT of a WAGE", x.told(22, 3), 0);
+        due("21: SORT of a DEBT", x.told(23, 3), 0);
         fullOfDues();
     }
 
@@ -305,6 +307,10 @@ public final class ValleyTest {
         due("13: has enough, buys none", x.is(0, 5), 999);
         due("13: ate all", x.is(0, 3), 0);
         due("13: HUNGER 1 less", x.is(0, 6), 1);
+        x.shelf(0, 1, 1);
+        x.be(0, 5, 1);
+        x.run(1);
+        due("13: one loaf for a penny", x.is(0, 5), 0);
     }
 
     private static void buyingInTown() {
@@ -450,6 +456,14 @@ public final class ValleyTest {
         x.run(1);
         due("13: of several the least MAN", x.known(0, 0, 0), 6);
         due("13: also of the others", x.known(2, 0, 0), 6);
+        x.be(1, 0, 1);
+        x.shelf(0, 1, 9);
+        x.hear(0, 0);
+        x.run(1);
+        x.be(1, 0, 0);
+        x.run(1);
+        due("13: the first KNOWS it of a later DAY", x.known(1, 0, 0), 9);
+        due("13: and the first still does", x.known(0, 0, 1), 1);
         TokenValley y = new TokenValley();
         y.shop(1, 5, 0, 0);
         y.man(0, 1, 1);
@@ -535,6 +549,11 @@ public final class ValleyTest {
         due("13: STOPPED in all", x.told(2, 7), 60);
         due("13: coin is held", x.is(0, 5), 60 + 91);
         due("13: COIN again", x.is(0, 4), 817 + 1218);
+        Due.text(x, "coin w*10", 14);
+        x.let(2);
+        x.let(5);
+        x.run(7);
+        due("13: coin of the WEEK 2", x.is(0, 4), 817 + 1218 + 252);
     }
 
     private static void payingLittle() {

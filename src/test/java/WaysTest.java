@@ -97,6 +97,9 @@ public final class WaysTest {
         x.run(5);
         due("43: in force now: of one", x.would(0, 0), 1);
         due("43: itself", x.would(1, 0), 0);
+        x.end(0, 0, 0, 0);
+        Due.text(x, "act 7", 9);
+        due("43: all that do not END there", x.would(3, 1), 46);
     }
 
     private static void breaches() {
@@ -126,6 +129,7 @@ public final class WaysTest {
         due("46: day -1", x.at(3, -1), BAD);
         due("46: day 3", x.at(3, 3), BAD);
         x.breach(3, 2, 2);
+        due("46: asked first", x.at(3, 2), 3);
         due("45: not by then", x.seen(2), 0);
         due("45: by then", x.seen(3), 1);
         due("46: there", x.at(3, 2), 3);
@@ -141,6 +145,14 @@ public final class WaysTest {
         due("46: of several the first", x.at(3, 0), 0);
         due("46: then the lesser place", x.at(3, 1), 1);
         due("46: then the other", x.at(3, 2), 3);
+        TokenValley y = new TokenValley();
+        y.keep();
+        for (int i = 0; i < 4; i++) y.breach(i, 0, 6);
+        due("45: four", y.seen(7), 4);
+        y.back();
+        y.breach(2, 3, 3);
+        due("45: not those that went", y.seen(7), 1);
+        due("46: nor where they were", y.at(7, 0), 0);
     }
 
     /** Every round is gone through here, by numbers, without any short cut. */
@@ -200,6 +212,15 @@ public final class WaysTest {
         x.be(1, 3, 999);
         due("47: COIN by the cheapest TOWN's PRICE", x.last(1, 0), (100 + 7) / 3);
         due("47: nobody there", x.last(2, 0), 999);
+        x.shelf(2, 1, 1);
+        due("47: for a penny", x.last(1, 0), 150 / 3);
+        x.man(6, 0, 1);
+        x.man(6, 0, 1);
+        x.be(4, 3, 7);
+        due("47: one has nothing", x.last(64, 0), 0);
+        x.man(7, 0, 1);
+        x.be(5, 3, 7);
+        due("47: in another PIT", x.last(192, 0), 0);
         x.rule(1, 1000);
         x.rule(2, 180);
         due("47: all dig: 180", x.last(0, 1), 999);
