@@ -40,6 +40,16 @@ public final class RulesTest {
         due("29: highest first", x.text(0), 0);
         due("29: due 9-7", x.rules(2, 0, 0, 0), 2);
         due("31: used up", x.count(10), 0);
+        x.feed(0x64756520, 0x31323334, 0x35000000);
+        x.trim(5);
+        due("30: what was cut off", x.text(0), 1);
+        due("30: is not read", x.rules(2, 0, 0, 0), 1);
+        x.feed(0x64756520, 0x77777777, 0);
+        x.trim(5);
+        due("30: nor as letters", x.text(0), 2);
+        x.feed(0x64756520, 0x31202020, 0x31000000);
+        x.trim(8);
+        due("30: nor behind blanks", x.text(0), 3);
         x.feed(0xffffffff, 0x80808080, 0);
         due("31: a byte above 127 is a sign", x.text(0), -100);
         due("31: used up by a FAULT, too", x.count(10), 0);

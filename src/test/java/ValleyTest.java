@@ -554,6 +554,12 @@ public final class ValleyTest {
         x.let(5);
         x.run(7);
         due("13: coin of the WEEK 2", x.is(0, 4), 817 + 1218 + 252);
+        x.run(35);
+        x.be(0, 4, 0);
+        x.run(6);
+        due("25: coin of the WEEK 8", x.worth(0, 1), 1080 * 80 / 100);
+        x.run(1);
+        due("13: coin of the WEEK 8", x.is(0, 4), 1260 * 80 / 100);
     }
 
     private static void payingLittle() {

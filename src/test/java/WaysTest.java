@@ -153,6 +153,7 @@ public final class WaysTest {
         y.breach(2, 3, 3);
         due("45: not those that went", y.seen(7), 1);
         due("46: nor where they were", y.at(7, 0), 0);
+        due("46: but where it is", y.at(7, 3), 2);
     }
 
     /** Every round is gone through here, by numbers, without any short cut. */
