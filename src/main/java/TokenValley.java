@@ -96,7 +96,7 @@ public final class TokenValley {
 
     public int hear(int man, int shop) {
         if (!now.men.has(man) || !now.shops.has(shop)) return BAD;
-        now.learn(man, shop);
+        now.men.learn(man, shop, now.shops.price[shop], now.day);
         return 1;
     }
 
@@ -563,10 +563,6 @@ public final class TokenValley {
             return sum;
         }
 
-        void learn(int man, int shop) {
-            men.learn(man, shop, shops.price[shop], day);
-        }
-
         void goBy(int days, boolean inCoin) {
             for (int i = 0; i < days; i++) {
                 for (int man = 0; man < men.count; man++) if (!men.isGone(man)) dig(man);
@@ -651,7 +647,7 @@ public final class TokenValley {
             men.bread[man] += loaves;
             shops.stock[shop] -= loaves;
             if (shops.sort[shop] == Shops.COMPANY) men.bought[man] += loaves;
-            learn(man, shop);
+            men.learn(man, shop, shops.price[shop], day);
         }
 
         /** Who tells of a shop is sought for all pits first, so that news goes all at once. */
@@ -1216,7 +1212,7 @@ public final class TokenValley {
                     stack[top] = op < FIRST_NAME ? op : named(op - FIRST_NAME, a, b, c);
                     top++;
                 } else if (op == -'!' && top > 0) {
-                    stack[top - 1] = truth(stack[top - 1] == 0);
+                    stack[top - 1] = stack[top - 1] == 0 ? 1 : 0;
                 } else if (op < 0 && top > 1) {
                     top--;
                     stack[top - 1] = joined(-op, stack[top - 1], stack[top]);
@@ -1230,17 +1226,13 @@ public final class TokenValley {
             return name == 1 ? b : c;
         }
 
-        private static int truth(boolean is) {
-            return is ? 1 : 0;
-        }
-
         private static int joined(int sign, int x, int y) {
             switch (sign) {
-                case '|': return truth(x != 0 || y != 0);
-                case '&': return truth(x != 0 && y != 0);
-                case '<': return truth(x < y);
-                case '=': return truth(x == y);
-                case '>': return truth(x > y);
+                case '|': return x != 0 || y != 0 ? 1 : 0;
+                case '&': return x != 0 && y != 0 ? 1 : 0;
+                case '<': return x < y ? 1 : 0;
+                case '=': return x == y ? 1 : 0;
+                case '>': return x > y ? 1 : 0;
                 case '+': return x + y;
                 case '-': return x - y;
                 case '*': return x * y;
