@@ -33,12 +33,12 @@ public final class AnyCallsTest {
     }
 
     private static void unchangedIfRefused(TokenValley x, int which, int[] a, int seed) {
-        String before = state(x);
+        String before = Seen.kept(x);
         int waits = x.count(9);
         int bytes = x.count(10);
         int answer = call(x, which, a);
         if (answer > Due.BAD || answer < Due.SIZE || which == 33 || which == 36) return;
-        Due.due("seed " + seed + ": refused call " + which + " changed the state", before.equals(state(x)) ? 0 : 1, 0);
+        Due.due("seed " + seed + ": refused call " + which + " changed the state", before.equals(Seen.kept(x)) ? 0 : 1, 0);
         if (which != 50) Due.due("refused: numbers that wait", x.count(9), waits);
         if (which != 29) Due.due("refused: the tape", x.count(10), bytes);
     }
@@ -87,10 +87,10 @@ public final class AnyCallsTest {
 
     private static void imageComesBack(TokenValley x, Random random, int seed) {
         x.keep();
-        String before = state(x);
+        String before = Seen.kept(x);
         for (int i = 0; i < 5; i++) act(x, random);
         x.back();
-        Due.due("seed " + seed + ": 55: all is as THE IMAGE", before.equals(state(x)) ? 1 : 0, 1);
+        Due.due("seed " + seed + ": 55: all is as THE IMAGE", before.equals(Seen.kept(x)) ? 1 : 0, 1);
     }
 
     private static void daysAsTold(TokenValley x, Random random, int seed) {
@@ -167,27 +167,6 @@ public final class AnyCallsTest {
         int sum = 0;
         for (int man = 0; man < x.count(1); man++) sum += x.is(man, what);
         return sum;
-    }
-
-    /** All that can be looked at, but BOOKS, numbers that wait, and the tape. */
-    private static String state(TokenValley x) {
-        StringBuilder s = new StringBuilder();
-        for (int what = 0; what <= 14; what++) if (what != 9 && what != 10) s.append(x.count(what)).append(' ');
-        for (int pit = 0; pit < 8; pit++) for (int what = 0; what <= 5; what++) s.append(x.dug(pit, what)).append(' ');
-        for (int shop = 0; shop < 6; shop++) for (int what = 0; what <= 3; what++) s.append(x.sells(shop, what)).append(' ');
-        for (int man = 0; man < x.count(1); man++) {
-            for (int what = 0; what <= 13; what++) s.append(x.is(man, what)).append(' ');
-            for (int what = 0; what <= 8; what++) s.append(x.worth(man, what)).append(' ');
-            for (int k = 0; k < 12; k++) s.append(x.known(man, k / 2, k % 2)).append(' ');
-            s.append(x.wrong(man)).append(' ');
-        }
-        for (int due = 0; due < x.count(3); due++) for (int what = 0; what <= 7; what++) s.append(x.told(due, what)).append(' ');
-        for (int text = 0; text < 12; text++) for (int what = 0; what <= 2; what++) s.append(x.of(text, what)).append(' ');
-        for (int key = 0; key < 7; key++) s.append(x.why(key)).append(' ').append(x.rules(key, 40, 3, 1)).append(' ');
-        for (int i = 0; i <= x.round(); i++) s.append(x.way(i)).append(' ');
-        for (int n = 1; n <= 7; n++) s.append(x.seen(n)).append(' ').append(x.at(n, n - 1)).append(' ');
-        for (int pits = 0; pits < 256; pits += 37) s.append(x.last(pits, 0)).append(' ').append(x.last(pits, 1)).append(' ');
-        return s.append(x.least()).append(' ').append(x.plan(50, 5, 200)).toString();
     }
 
     private static int call(TokenValley x, int which, int[] v) {

@@ -1,19 +1,31 @@
-/** What the tests share: answers that are due, and texts put on the tape. */
+/** What the tests share: answers that are due, sentences that they hold, and texts put on the tape. */
 final class Due {
     static final int BAD = -1000000001, NO = -1000000002, FULL = -1000000003, SPENT = -1000000004, NONE = -1000000005;
     static final int NOTHING = -1000000011, KIND = -1000000012, INDEX = -1000000013, SIZE = -1000000014;
 
     private static int wrong;
     private static int asked;
+    private static String said = "";
 
     private Due() {
+    }
+
+    /** What is asked from here on holds a sentence of the document, for a promise. */
+    static void says(int promise, String sentence) {
+        said = "promise " + promise + ", \"" + sentence + "\": ";
     }
 
     static void due(String call, long got, long want) {
         asked++;
         if (got == want) return;
         wrong++;
-        System.out.println(call + " answered " + got + ", due is " + want);
+        System.out.println(said + call + " answered " + got + ", due is " + want);
+    }
+
+    /** Asks for some numbers in a row. */
+    static void row(String call, int[] got, int... want) {
+        due(call + ", how many", got.length, want.length);
+        for (int i = 0; i < got.length && i < want.length; i++) due(call + ", number " + i, got[i], want[i]);
     }
 
     /** Puts a text on the tape, whatever was there. */
