@@ -17,6 +17,7 @@ public final class TermsOfDuesTest {
         bound();
         boundLong();
         beside();
+        besideInTowns();
         besideGone();
         Due.end();
     }
@@ -368,6 +369,41 @@ public final class TermsOfDuesTest {
         due("to DAY 7000", y.beside(40, 0), Due.FULL);
         due("BAD first", y.beside(61, 0), BAD);
         due("BAD first", y.beside(60, 3), BAD);
+    }
+
+    /** MAN 0 has bread till DAY 7, a LIMIT of 100 at a COMPANY shop for 10, and CHECKS alone here. */
+    private static TokenValley besideATown(int weight) {
+        TokenValley x = new TokenValley();
+        x.shop(0, 10, 99, 0);
+        x.man(0, 1, 1);
+        x.pit(0, 0, weight);
+        x.be(0, 3, 7);
+        Due.text(x, "coin 0", 0);
+        return x;
+    }
+
+    private static void besideInTowns() {
+        Due.says(28, "in which coin is 100 always");
+        TokenValley x = besideATown(1);
+        x.shop(1, 2, 99, 3);
+        x.hear(0, 1);
+        // 7 pence: there one loaf and ROAD on DAY 7, then no more; here all on DEBT
+        Due.row("behind 8, 9, 10 DAYS", new int[] {x.beside(8, 0), x.beside(9, 0), x.beside(10, 0)}, -10, -10, -10);
+        x = besideATown(1);
+        x.shop(1, 2, 99, 0);
+        x.shop(1, 1, 99, 0);
+        x.hear(0, 1);
+        x.hear(0, 2);
+        x.shelf(2, 1, 50);
+        due("there it goes to the one that it KNOWS as cheaper, in vain", x.beside(8, 0), 0);
+        x = besideATown(20);
+        x.shop(1, 99, 99, 42);
+        x.hear(0, 1);
+        due("140 pence are not enough for 141; here CHECKS are", x.beside(8, 0), 10);
+        x = besideATown(20);
+        x.shop(1, 99, 99, 41);
+        x.hear(0, 1);
+        due("but for 140", x.beside(8, 0), 0);
     }
 
     private static void besideGone() {

@@ -143,6 +143,12 @@ public final class TermsOfRulesTest {
         x.rules(2, 1, 1, 1);
         x.run(1);
         due("other acts do not read it", x.count(10), 5);
+        x = new TokenValley();
+        String[] faults = {"due ww", "due 1 1", "due 12345", "due 1w", "due", "due !", "due (((1", "wag", "due w w"};
+        for (int i = 0; i < faults.length; i++) {
+            due("a FAULT", Due.text(x, faults[i], 0) <= -100 ? 1 : 0, 1);
+            due("leaves nothing to the next one", Due.text(x, "due w+1", 0), i);
+        }
     }
 
     private static void keys() {

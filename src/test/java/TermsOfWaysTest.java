@@ -487,7 +487,15 @@ public final class TermsOfWaysTest {
             due("the DAY", x.back(), 1);
             Due.row("as it was", new int[] {x.count(1), x.count(3), x.is(0, 3), x.is(0, 10), x.is(0, 4)}, 1, 2, 98, 20, 0);
         }
+        x.pit(0, 1, 50);
+        x.stop(0, 3, 0);
         x.run(1);
+        x.keep();
+        x.run(5);
+        x.be(0, 0, 3);
+        Due.row("DUG, TOLD, STOPPED", new int[] {x.dug(0, 2), x.dug(0, 3), x.told(2, 7)}, 140, 80, 3);
+        x.back();
+        Due.row("as they were", new int[] {x.dug(0, 2), x.dug(0, 3), x.told(2, 7), x.is(0, 0)}, 40, 30, 0, 0);
         due("another IMAGE", x.keep(), 2);
         x.run(1);
         due("the later one", x.back(), 2);
@@ -534,6 +542,16 @@ public final class TermsOfWaysTest {
         due("0 DAYS", x.check(1, 0, 0), BAD);
         due("-1 DAYS", x.check(1, -1, 0), BAD);
         due("of nobody", check(nobody(), 1, 2, 0, 0, 0, 0, 0), 0);
+        x = new TokenValley();
+        Due.text(x, "wage 7", 0);
+        Due.text(x, "coin 0", 0);
+        x.shop(0, 10, 99, 0);
+        x.man(0, 1, 1);
+        x.be(0, 3, 7);
+        x.fine(0, 29, 0);
+        x.keep();
+        // 49 less the FINE are 20, in CHECKS: bread for DAYS 7 and 8; the DEBT comes on DAY 9
+        due("by rules and DUES as they are", check(x, 1, 10, 0, 7, 0, 14, 0, 21, 0, 28, 0, 35, 0, 42, 0, 0, 0, 7, 0, 14, 0, 21, 10), 0);
     }
 
     private static TokenValley nobody() {
