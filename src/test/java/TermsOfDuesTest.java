@@ -181,6 +181,13 @@ public final class TermsOfDuesTest {
         due("given", x.give(0), 40);
         due("99999 at most", x.is(0, 4), 99999);
         due("MAN 1", x.give(1), BAD);
+        x = fed(1);
+        x.fine(0, 140, 0);
+        x.fine(0, 5, 0);
+        Due.text(x, "fine 0", 0);
+        x.run(7);
+        due("what was taken is given", x.give(0), 140);
+        Due.row("what took nothing stays DONE", new int[] {x.told(2, 5), x.told(3, 5), x.told(3, 2)}, 2, 1, 0);
     }
 
     private static void worth() {

@@ -561,6 +561,15 @@ public final class TermsOfValleyTest {
                 due("and the DAY", x.known(man, shop, 1), man < 10 ? 0 : NONE);
             }
         }
+        x = new TokenValley();
+        x.shop(1, 5, 0, 0);
+        for (int i = 0; i < 4; i++) {
+            x.man(i / 2, 0, 1);
+            x.be(i, 3, 99);
+        }
+        x.hear(3, 0);
+        x.run(1);
+        Due.row("PIT 0 hears nothing, PIT 1 does", new int[] {x.known(0, 0, 0), x.known(1, 0, 0), x.known(2, 0, 0)}, NONE, NONE, 5);
         Due.says(13, "MEN (who are not GONE) of one PIT");
         x = new TokenValley();
         x.shop(0, 7, 9, 0);

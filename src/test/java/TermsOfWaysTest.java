@@ -34,6 +34,7 @@ public final class TermsOfWaysTest {
         Due.says(40, "m 0 .. 3 in what, p 0 .. 3 where, t 0 .. 2 when; each may be told to END at the shop (none do at first)");
         TokenValley x = new TokenValley();
         int[][] bad = {{-1, 0, 0, 1}, {4, 0, 0, 1}, {0, -1, 0, 1}, {0, 4, 0, 1}, {0, 0, -1, 1}, {0, 0, 3, 1}, {0, 0, 0, -1}, {0, 0, 0, 2},
+            {1, -1, 0, 1}, {0, 1, -1, 1}, {1, 4, 0, 1}, {0, 1, 3, 1},
             {LEAST, 0, 0, 0}, {0, MOST, 0, 0}, {0, 0, MOST, 0}, {3, 3, 2, MOST}};
         for (int[] b : bad) due("out of bounds", x.end(b[0], b[1], b[2], b[3]), BAD);
         due("none at first", x.round(), 0);
@@ -176,6 +177,13 @@ public final class TermsOfWaysTest {
         int[] four = {0, 0, 2, 3};
         for (int day = 0; day < 4; day++) due("of 2, 3 and 3, 2 the first", x.at(4, day), four[day]);
         due("one DAY", x.at(1, 0), 2);
+        x = new TokenValley();
+        x.keep();
+        x.breach(2, 0, 6);
+        due("the place of the one", x.at(1, 0), 2);
+        x.back();
+        due("nothing to see any more", x.at(1, 0), 0);
+        due("nothing is seen", x.seen(1), 0);
     }
 
     private static void menLast() {
@@ -449,6 +457,11 @@ public final class TermsOfWaysTest {
         due("wrong and too many", check(x, 0, 0, 10, 1, 1, 5, 2, 0), 3);
         due("what was told ahead of that is gone", check(x, 0, 0, 10, 1, 1, 0, 2), 0);
         due("of none", check(new TokenValley(), 0, 0, 0), 0);
+        TokenValley y = new TokenValley();
+        for (int i = 0; i < 8; i++) y.choice(10, 0, i == 0 ? 0 : 1 << i - 1);
+        due("of eight", check(y, 0, 10, 10, 0, 0, 1, 1, 2, 2, 3, 3, 4, 4, 5, 5, 6, 6, 7, 7), 0);
+        due("of eight the last", check(y, 0, 10, 10, 0, 0, 1, 1, 2, 2, 3, 3, 4, 4, 5, 5, 6, 6, 7, 8), 16);
+        due("seventeen of eight", check(y, 0, 10, 10, 0, 0, 1, 1, 2, 2, 3, 3, 4, 4, 5, 5, 6, 6, 7, 7, 0), 17);
         due("one too many of none", check(new TokenValley(), 0, 0, 0, 7), 1);
         Due.says(52, "FULL: 60 wait");
         for (int i = 1; i <= 60; i++) due("waits", x.tell(MOST), i);
